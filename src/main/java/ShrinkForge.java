@@ -1131,7 +1131,7 @@ public final class ShrinkForge {
         private final Needs need;
         private final Names names;
         private final Text text = new Text(CLASSES * CLASS_ROW + MEMBERS * MEMBER_ROW);
-        private boolean stale = true;
+        private boolean stale;
 
         Mapping(Types types, Members all, Needs need, Names names) {
             this.types = types;

@@ -85,13 +85,7 @@ final class Forge {
         return text.toString();
     }
 
-    /** Traces with this DRAFT in place of the one that is there; the RULES go too. */
-    int traceAfterClear(String draft, int text, int shape, boolean method) {
-        x.clear(false);
-        return trace(draft, text, shape, method);
-    }
-
-    /** Traces with this text added to the DRAFT, which a failing rule() empties first. */
+    /** Traces with this DRAFT; a rule() that fails empties what was there. */
     int trace(String draft, int text, int shape, boolean method) {
         x.letter('}');
         x.rule();
