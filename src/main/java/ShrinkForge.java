@@ -38,8 +38,9 @@ public final class ShrinkForge {
 
     private static final int WORD_INIT = 6;
     private static final int WORD_CLINIT = 7;
-    /** The signatures of METHOD 0 with SHAPE 0, and of METHOD 7 with SHAPE 0. */
+    /** The signature of METHOD 0 with SHAPE 0, which the LIBRARY calls. */
     private static final int LIBRARY_CALL = FIRST_METHOD;
+    /** The signature of METHOD 7 with SHAPE 0, with which a CLASS starts. */
     private static final int START = FIRST_METHOD + WORD_CLINIT * SHAPES;
 
     private static final int KEEP = 1;
@@ -565,9 +566,8 @@ public final class ShrinkForge {
             }
             // a SUPER has a lesser number, so a LINE goes down by numbers
             for (int up = c; up >= 0; up--) {
-                int m = at(up, signature);
-                if (has(types.lines[c], up) && has(among, m)) {
-                    return m;
+                if (has(types.lines[c], up) && has(among, at(up, signature))) {
+                    return at(up, signature);
                 }
             }
             return leastOfFaces(types.above[c] & types.allFaces, signature, among);
@@ -576,9 +576,9 @@ public final class ShrinkForge {
         private int leastOfFaces(long faces, int signature, long among) {
             int least = NONE;
             for (int face = 0; face < CLASSES; face++) {
-                int m = at(face, signature);
-                if (has(faces, face) && has(among, m) && (least == NONE || m < least)) {
-                    least = m;
+                if (has(faces, face) && has(among, at(face, signature))) {
+                    int m = at(face, signature);
+                    least = least == NONE ? m : Math.min(least, m);
                 }
             }
             return least;
