@@ -3,7 +3,10 @@ import java.util.Random;
 /** Runs of calls from fixed seeds, each answer held against the model's. */
 public final class ModelTest {
     private static final int RUNS = 1500;
-    private static final int CALLS = 500;
+    /** So far below 512 that the last thing done, a rule with all its letters, ends below it too. */
+    private static final int CALLS = 440;
+    /** Two more than there is room for. */
+    private static final int LONGEST_DRAFT = 62;
     private static final String[] NAMES = {
         "**", "*", "o.*", "p.*", "q.*", "?.?", "*.B", "o.A", "p.C", "**D", "o**", "***", "*.*", "?.[", "a", "**.", ".", "?*?", "*.E", "q.?"
     };
@@ -171,7 +174,7 @@ public final class ModelTest {
                 text.insert(at, any(" ", ";", "{", "}", "*", "x", " x", " }"));
             }
         }
-        return text.toString();
+        return text.substring(0, Math.min(text.length(), LONGEST_DRAFT));
     }
 
     private void letters(String text) {
