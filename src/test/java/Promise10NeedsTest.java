@@ -231,6 +231,18 @@ public final class Promise10NeedsTest {
         needed(f, "by the last rule", last, true);
     }
 
+    /** By keepmembers in a program that is full. */
+    static void promise10KeepMembersOfAll40() {
+        Forge f = new Forge();
+        f.withAllMembers().with(1, 1, 0, 0).with(3, 1, 0, 0);
+        f.ruled("keepmembers class ** { m *; }").ruled("keep class p.D");
+        CHECK.due("member 0 and seven of class 3", f.count(7), 8);
+        needed(f, "the last member", 39, true);
+        needed(f, "one of a class that is not needed", 1, false);
+        f.ruled("keep class **");
+        CHECK.due("all", f.count(7), 40);
+    }
+
     /** Keepnames brings nothing, neither to a CLASS that is NEEDED nor to another. */
     static void promise10KeepNames() {
         Forge f = new Forge();

@@ -150,6 +150,7 @@ public final class Promise16TraceTest {
         CHECK.due("there is no field s", f.trace('s', 0, false), Forge.NONE);
         CHECK.due("nor shape 1", f.trace('s', 1, true), Forge.NONE);
         CHECK.due("member 0", f.traced("o.A", 'r', 0, true), 0);
+        CHECK.due("member 0 is no field", f.trace('r', 0, false), Forge.NONE);
     }
 
     /** What is not NEEDED has gone, also with a kept text; so has what is GONE. */
@@ -197,6 +198,8 @@ public final class Promise16TraceTest {
         f.ruled("keep class ** { m *; }");
         CHECK.due("class 9", f.tracedClass("q.J"), 9);
         CHECK.due("member 39", f.trace('u', 1, true), 39);
+        CHECK.due("no other method", f.trace('v', 1, true), Forge.NONE);
+        CHECK.due("no field", f.trace('u', 1, false), Forge.NONE);
     }
 
     /** Each change shows in the next answer. */
